@@ -13,6 +13,8 @@ public final class ButtonsTest {
         test.firstOfEach();
         test.behindTheRound();
         test.orderOfBlows();
+        test.delayGoesBehind();
+        test.mostPresses();
         test.unseen();
         test.madeAndMissed();
         test.roundByRound();
@@ -97,6 +99,35 @@ public final class ButtonsTest {
         ThreeCards y = Due.laid("b0,30,0,1,2;b0,20,0,1,10;b0,10,0,1,2;" + HERE + "j5,1,0,20,1,0,0;j8,1,0,20,1,0,0;");
         due.is("two each", y.buttons(0, 2, 0, 0), 3);
         due.is("three each", y.buttons(0, 3, 0, 0), 0);
+    }
+
+    /** JUDGE 0 SEES the BLOW at 10, JUDGE 1 that at 14, JUDGE 2 none. */
+    private void delayGoesBehind() {
+        ThreeCards x = Due.laid("b0,14,0,1,6;b0,10,0,1,0;" + HERE + "j6,1,0,20,1,0,0;j6,1,0,20,1,0,0;");
+        x.delay(2, 9);
+        x.delay(1, 4);
+        due.is("10 and 18", x.buttons(0, 2, 0, 0), 0);
+        due.is("10 and 18 within 7", x.buttons(0, 2, 7, 0), 1);
+        x.delay(1, 0);
+        x.delay(0, 4);
+        due.is("14 and 14", x.buttons(0, 2, 0, 0), 1);
+        ThreeCards y = Due.laid("b0,30,0,1,0;b0,22,0,1,6;b0,10,0,1,0;b0,15,0,1,6;" + HERE + HERE + "j6,1,0,20,1,0,0;");
+        // JUDGES 0 and 1: 10, 30; JUDGE 2: 15, 22.
+        due.is("three within 9: at 10 with 15, at 22 with 30", y.buttons(0, 3, 9, 0), 2);
+        due.is("three within 8: at 22 with 30", y.buttons(0, 3, 8, 0), 2);
+        due.is("three within 7", y.buttons(0, 3, 7, 0), 1);
+        due.is("three within 4", y.buttons(0, 3, 4, 0), 0);
+    }
+
+    private void mostPresses() {
+        ThreeCards x = Due.laid("b0,0,0,1,0;".repeat(34) + "j0,0,0,0,1,0,0;".repeat(8));
+        for (int judge = 0; judge < 8; judge++) {
+            x.delay(judge, judge);
+        }
+        due.is("each press a POINT", x.buttons(0, 1, 0, 0), 34 * 8);
+        due.is("MADE", x.buttons(-1, 1, 0, 2), 34 * 7);
+        due.is("eight within 7", x.buttons(0, 8, 7, 0), 34);
+        due.is("eight within 6", x.buttons(0, 8, 6, 0), 0);
     }
 
     private void unseen() {

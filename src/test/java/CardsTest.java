@@ -339,6 +339,16 @@ public final class CardsTest {
         due.is("below", y.coins(TEN, 0, 1, 2, 1, 1), 1);
         ThreeCards z = Due.laid("r2;d0,0;" + judges);
         due.is("points taken stay: 1 by 3 of 4", z.coins(TEN, 0, 1, 2, 1, 0), 3);
+        // Three CLOSE ROUNDS and two knockdowns of 1: TEN 4 + (6, 2, -2, -6), HALVES 4 + (3, 1, -1, -3).
+        ThreeCards three = Due.laid("r3;k1,1;k1,1;" + judges);
+        due.is("TEN: 1 by 1 of 8", three.coins(TEN, 0, 1, 2, 1, 0), 1);
+        due.is("of 8", three.coins(TEN, 0, 1, 2, 1, 1), 8);
+        due.is("HALVES: never 1", three.coins(HALVES, 0, 1, 2, 1, 0), 0);
+        // Two ROUNDS, two knockdowns of 1: TEN 4 + (4, 0, 0, -4): even by 1 of 4, never 1.
+        ThreeCards even = Due.laid("r2;k1,1;k1,1;" + judges);
+        due.is("TEN: even by 1 of 4", even.coins(TEN, 0, 1, 2, 2, 0), 1);
+        due.is("of 4", even.coins(TEN, 0, 1, 2, 2, 1), 4);
+        due.is("TEN: never 1", even.coins(TEN, 0, 1, 2, 1, 0), 0);
         ThreeCards most = new ThreeCards();
         due.is("36 coins", most.coins(TEN, 2, 0, 1, -1, 0), 36);
         due.is("none: above", most.coins(TEN, 0, 1, 2, 2, 0), 714336777L);
@@ -370,6 +380,15 @@ public final class CardsTest {
         for (int what = 0; what < 5; what++) {
             due.is("all SIDES: seats(" + what + ")", round.seats(what), ofAll[what]);
         }
+        round.wipe();
+        Due.put(round, "b0,0,0,1,0;" + judges);
+        round.lay();
+        // SIDE 0 is SEEN from SEATS 8 to 4.
+        due.is("SIDE 0 alone, behind all SIDES", round.seats(1) * 100 + round.seats(2), 102);
+        // SIDE 4 is SEEN from SEATS 0 to 8, SIDE 7 from 3 to 11, SIDE 0 from 8 to 4.
+        ThreeCards some = Due.laid("b0,0,0,1,0;b0,0,0,1,4;b0,0,0,1,7;" + judges);
+        due.is("three SIDES: b", some.seats(1), 3);
+        due.is("three SIDES: c", some.seats(2), 4);
         ThreeCards late = Due.laid("r1;" + "b1,0,0,1,6;" + "b0,0,0,1,0;" + judges);
         due.is("a BLOW beyond the ROUNDS counts not", late.seats(1), 1);
     }

@@ -222,6 +222,16 @@ public final class TextTest {
         due.is("TENTHS stay", x.tenths(1, 1, 9), 9);
         due.is("nothing forward, no noise", x.sum(1, 0, 0), 0);
         due.is("no knockdowns, no points taken", x.card(0, 0), 24);
+        x.wipe();
+        Due.put(x, "b0,0,0,1,6;b0,0,0,1,6;j0,1,9,20,1,9,0;" + JUDGE + JUDGE);
+        due.is("other BLOWS", x.lay(), 3);
+        due.is("SEEN by none", x.blow(0, 5), 0);
+        due.is("no noise without", x.sum(0, 0, 0), 0);
+        x.wipe();
+        Due.put(x, "b0,0,0,1,0;" + JUDGE + "j6,1,0,20,1,0,0;" + JUDGE);
+        due.is("other SEATS", x.lay(), 3);
+        due.is("SEEN by two", x.blow(0, 5), 5);
+        due.is("one BLOW", x.blow(1, 5), BAD);
     }
 
     private void blow() {

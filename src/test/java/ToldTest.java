@@ -199,7 +199,7 @@ public final class ToldTest {
     }
 
     private void added() {
-        ThreeCards x = Due.laid("r2;k0,1;d1,0;j0,0,0,23,1,0,3;j0,0,0,17,1,0,2;j0,0,0,20,1,0,0;j0,0,0,20,1,0,0;");
+        ThreeCards x = Due.laid("r2;k0,1;d1,0;j0,0,0,23,1,0,3;j0,0,0,17,1,0,2;j0,0,0,20,1,0,0;j0,0,0,0,1,0,0;");
         // TEN: 4, 2; 0, -2; 4, 2. HALVES: 3, 1; 0, -2; 3, 1. EVENS: 2, 0; 0, -2; 2, 0.
         due.is("TEN 0", x.added(0, 0, 38, 36, 38), NONE);
         due.is("TEN 1", x.added(0, 1, 34, 40, 34), NONE);
