@@ -1125,7 +1125,6 @@ public final class ThreeCards {
         }
 
         private void chooseOpen(int ifWon, int ifLost) {
-            zeroPushes = 0;
             answer(roundValue(notes.tenthsOf(0, 0), ifWon, ifLost), roundValue(notes.tenthsOf(0, 1), ifWon, ifLost));
             int held = value, answerToHeld = onePushes;
             answer(roundValue(notes.tenthsOf(1, 0), ifWon, ifLost), roundValue(notes.tenthsOf(1, 1), ifWon, ifLost));

@@ -34,10 +34,11 @@ public final class CrossTest {
     private String item() {
         int kind = any(0, 19);
         if (kind < 11) {
-            return numbers("b", any(0, 3), any(0, 3) == 0 ? any(165, 179) : any(20, 30), any(0, 1), any(1, 9), any(0, 11));
+            int round = any(0, 3) == 0 ? any(0, 11) : any(0, 3);
+            return numbers("b", round, any(0, 3) == 0 ? any(165, 179) : any(20, 30), any(0, 1), any(1, 9), any(0, 11));
         }
         if (kind < 13) {
-            return numbers("f", any(0, 4), any(0, 1), any(0, 9));
+            return numbers("f", any(0, 11), any(0, 1), any(0, 9));
         }
         if (kind < 15) {
             return numbers("k", any(0, 11), any(0, 1));
