@@ -5,11 +5,15 @@ import java.util.function.ToLongFunction;
  * same, and so must the whole state behind it.
  */
 public final class CrossTest {
-    private static final int RUNS = 600;
-    private static final int CALLS = 170;
+    private static final int RUNS = 2400;
+    // An object is used for 512 calls: what comes at random ends here, so that State has room behind it.
+    private static final int RANDOM_CALLS = 270;
+    private static final int CALLS_BEFORE_ANOTHER_TEXT = 90;
+    private static final int MOST_CALLS = 512;
 
     private final Due due = new Due();
     private long seed = 20261119;
+    private int calls = 0;
 
     public static void main(String[] args) {
         CrossTest test = new CrossTest();
@@ -81,6 +85,7 @@ public final class CrossTest {
 
     private void both(int run, String call, ToLongFunction<ThreeCards> cards, ToLongFunction<Plain> plain,
             ThreeCards x, Plain y) {
+        calls++;
         due.is("run " + run + ": " + call, cards.applyAsLong(x), plain.applyAsLong(y));
     }
 
@@ -104,10 +109,11 @@ public final class CrossTest {
     private void run(int run) {
         ThreeCards x = new ThreeCards();
         Plain y = new Plain();
+        calls = 0;
         if (any(0, 9) > 0) {
             putText(run, x, y);
         }
-        for (int call = 0; call < CALLS; call++) {
+        while (calls < RANDOM_CALLS) {
             switch (any(0, 5)) {
                 case 0: callFight(run, x, y); break;
                 case 1: callCards(run, x, y); break;
@@ -116,47 +122,24 @@ public final class CrossTest {
                 case 4: callTold(run, x, y); break;
                 default: callOpen(run, x, y); break;
             }
-            if (any(0, 200) == 0) {
+            if (calls < CALLS_BEFORE_ANOTHER_TEXT && any(0, 9) == 0) {
                 putText(run, x, y);
             }
         }
-        compareState(run, x, y);
-    }
-
-    /** Reads what can be read; the told MARGINS, DELAYS and TENTHS tell what they were as they are put to others. */
-    private void compareState(int run, ThreeCards x, Plain y) {
-        for (int what = -1; what <= 6; what++) {
-            int w = what;
-            both(run, "count(" + w + ")", c -> c.count(w), p -> p.count(w), x, y);
+        int before = due.checks();
+        if (run % 2 == 0) {
+            State.fight(due, "run " + run, new Pair(x, y));
+        } else {
+            State.notes(due, "run " + run, new Pair(x, y));
         }
-        for (int i = 0; i < 240; i++) {
-            int k = i / 6;
-            int what = i % 6;
-            both(run, "blow(" + k + ", " + what + ")", c -> c.blow(k, what), p -> p.blow(k, what), x, y);
-        }
-        for (int i = 0; i < 192; i++) {
-            int judge = i / 24;
-            int round = i / 2 % 12;
-            int corner = i % 2;
-            both(run, "sum", c -> c.sum(judge, round, corner), p -> p.sum(judge, round, corner), x, y);
-        }
-        for (int i = 0; i < 144; i++) {
-            int name = i / 24;
-            int night = i % 24;
-            both(run, "tell", c -> c.tell(name, night, -21), p -> p.tell(name, night, -21), x, y);
-        }
-        for (int i = 0; i < 8; i++) {
-            int judge = i;
-            both(run, "delay", c -> c.delay(judge, 0), p -> p.delay(judge, 0), x, y);
-            both(run, "tenths", c -> c.tenths(judge / 2, judge % 2, 5), p -> p.tenths(judge / 2, judge % 2, 5), x, y);
-        }
+        due.isTrue("run " + run + " has 512 calls at most", calls + due.checks() - before <= MOST_CALLS);
     }
 
     private void callFight(int run, ThreeCards x, Plain y) {
-        int judge = near(0, x.count(1) - 1);
-        int round = near(0, x.count(0) - 1);
+        int judge = near(0, y.count(1) - 1);
+        int round = near(0, y.count(0) - 1);
         int corner = near(0, 1);
-        int k = near(0, Math.max(0, x.count(2) - 1));
+        int k = near(0, Math.max(0, y.count(2) - 1));
         int what = near(0, 5);
         String at = "(" + judge + ", " + round + ")";
         both(run, "blow(" + k + ", " + what + ")", c -> c.blow(k, what), p -> p.blow(k, what), x, y);
@@ -167,8 +150,8 @@ public final class CrossTest {
 
     private void callCards(int run, ThreeCards x, Plain y) {
         int rule = near(0, 3);
-        int judge = near(0, x.count(1) - 1);
-        int round = near(0, x.count(0) - 1);
+        int judge = near(0, y.count(1) - 1);
+        int round = near(0, y.count(0) - 1);
         int corner = near(0, 1);
         String at = "(" + rule + ", " + judge + ")";
         both(run, "margin" + at + round, c -> c.margin(rule, judge, round), p -> p.margin(rule, judge, round), x, y);
@@ -184,9 +167,9 @@ public final class CrossTest {
 
     private void callThree(int run, ThreeCards x, Plain y) {
         int rule = near(0, 3);
-        int a = near(0, x.count(1) - 1);
-        int b = any(0, 9) == 0 ? a : (a + any(1, 2)) % x.count(1);
-        int c0 = any(0, 9) == 0 ? any(0, 7) : Math.floorMod(Math.max(a, b) + 1, x.count(1));
+        int a = near(0, y.count(1) - 1);
+        int b = any(0, 9) == 0 ? a : (a + any(1, 2)) % y.count(1);
+        int c0 = any(0, 9) == 0 ? any(0, 7) : Math.floorMod(Math.max(a, b) + 1, y.count(1));
         int what = near(0, 1);
         int end = near(0, 2);
         String three = "(" + rule + ", " + a + ", " + b + ", " + c0 + ", ";
@@ -200,10 +183,10 @@ public final class CrossTest {
     }
 
     private void callButtons(int run, ThreeCards x, Plain y) {
-        int judge = near(0, x.count(1) - 1);
+        int judge = near(0, y.count(1) - 1);
         int d = near(0, 9);
         both(run, "delay(" + judge + ", " + d + ")", c -> c.delay(judge, d), p -> p.delay(judge, d), x, y);
-        int round = near(-1, x.count(0) - 1);
+        int round = near(-1, y.count(0) - 1);
         int q = any(0, 3) == 0 ? near(1, 8) : any(1, 3);
         int w = near(0, 9);
         int what = near(0, 3);

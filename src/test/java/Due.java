@@ -15,6 +15,10 @@ final class Due {
         is(what, holds ? 1 : 0, 1);
     }
 
+    int checks() {
+        return checks;
+    }
+
     void close() {
         System.out.println(checks + " checks, " + wrong + " wrong");
         if (wrong != 0 || checks == 0) {
